@@ -1455,13 +1455,18 @@ public final class SelfSorting {
             }
             open++;
             at++;
-            if (kind == OPENED ? !sum() || !skip(CLOSED) : !one()) {
+            if (kind == OPENED ? !sum() : !one()) {
                 return false;
             }
             open--;
             if (kind == MINUS) {
                 text.add(CODE + NEGATED);
+                return true;
             }
+            if (kind() != CLOSED) {
+                return fail(1);
+            }
+            at++;
             return true;
         }
 

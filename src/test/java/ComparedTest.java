@@ -155,6 +155,13 @@ final class ComparedTest {
     }
 
     private String livelyText() {
+        if (chance(20)) {
+            // Two by two as good as drawn: long rounds, and far from REST.
+            String sum = "hue*oauthor+creed*ohue+thick*ocreed+author*othick+book*3+other*5";
+            int k = pick(3, 9);
+            String asks = "right=1 and " + sum + "-(" + sum + ")/" + k + "*" + k + "<" + pick(1, k - 1);
+            return "law 0 " + asks + ";law 1 right=1 and ohue>=creed;";
+        }
         StringBuilder s = new StringBuilder();
         for (int law = 0; law < 3 && s.length() < 220; law++) {
             s.append("law ").append(law).append(" ").append(lively());
