@@ -3,9 +3,9 @@ final class PromisesTest {
     private static final int NONE = SelfSorting.NONE;
     private static final int MOST = Integer.MAX_VALUE;
     private static final int LEAST = Integer.MIN_VALUE;
-    private static final String SORT = "law 0 thick>othick and right=1;";
-    private static final String SWAP = "law 0 right=1;";
-    private static final String NEXT = "law 0 right=1 and other=book+1;";
+    private static final String SORT = Sentences.SORT;
+    private static final String SWAP = Sentences.SWAP;
+    private static final String NEXT = Sentences.NEXT;
 
     private final Calls calls = new Calls();
 
@@ -31,16 +31,8 @@ final class PromisesTest {
         calls.due(call, got, want);
     }
 
-    /** BOOKS of LAW 0, as thick as told, on SHELF 0 (99 wide) in their order, by a TEXT. */
     private static SelfSorting shelf(String text, int... thicks) {
-        SelfSorting x = new SelfSorting();
-        x.wide(0, 99);
-        for (int i = 0; i < thicks.length; i++) {
-            x.book(0, 0, thicks[i], 0, 0);
-            x.put(i, 0, i);
-        }
-        x.by(Calls.read(x, text));
-        return x;
+        return Sentences.shelf(text, thicks);
     }
 
     private void row(String when, SelfSorting x, int shelf, int... books) {
@@ -798,30 +790,14 @@ final class PromisesTest {
         promise33and34();
     }
 
-    /** A SHELF by four digits a BOOK (hue, creed, thick, author), where twos change if a sum mod k is below k - 1. */
-    private static SelfSorting mixed(int k, String digits) {
-        SelfSorting x = new SelfSorting();
-        x.wide(0, 99);
-        for (int i = 0; i + 3 < digits.length(); i += 4) {
-            int[] b = new int[4];
-            for (int j = 0; j < 4; j++) {
-                b[j] = digits.charAt(i + j) - '0';
-            }
-            x.put(x.book(b[0], b[1], b[2], b[3], 0), 0, i / 4);
-        }
-        String sum = "hue*oauthor+creed*ohue+thick*ocreed+author*othick+book*3+other*5";
-        x.by(Calls.read(x, "law 0 right=1 and " + sum + "-(" + sum + ")/" + k + "*" + k + "<" + (k - 1) + ";"));
-        return x;
-    }
-
     // Found by a search that followed NIGHTS without a bound, one by one.
     private void farNights() {
-        SelfSorting x = mixed(4, "224670473731771065177336493521839237");
+        SelfSorting x = FarShelf.mixed(4, "224670473731771065177336493521839237");
         due("23: far off", x.rest(0), 291);
         due("24: it RESTS", x.round(0, false), NONE);
         x.night(1);
         due("23: far off", x.rest(0), 290);
-        due("23: far off", mixed(4, "37882687583146473081186149866619").rest(0), 150);
+        due("23: far off", FarShelf.mixed(4, "37882687583146473081186149866619").rest(0), 150);
         int[] ks = {7, 6, 3, 8, 10};
         String[] digits = {"921607764572885257374123793638109571", "04244862791644552141993623540289",
             "49893935374626955771606383688610", "311277459059215207944736044752491599",
@@ -829,7 +805,7 @@ final class PromisesTest {
         int[] begins = {7, 4, 4, 14, 0};
         int[] lengths = {492, 496, 496, 486, 500};
         for (int i = 0; i < ks.length; i++) {
-            SelfSorting y = mixed(ks[i], digits[i]);
+            SelfSorting y = FarShelf.mixed(ks[i], digits[i]);
             due("24: within 500, " + i, y.round(0, false), begins[i]);
             due("24: within 500, " + i, y.round(0, true), lengths[i]);
             due("23: never, " + i, y.rest(0), NONE);
@@ -838,7 +814,7 @@ final class PromisesTest {
             "734547417739062082768566514041680518"};
         int[] farKs = {6, 9, 4};
         for (int i = 0; i < far.length; i++) {
-            SelfSorting y = mixed(farKs[i], far[i]);
+            SelfSorting y = FarShelf.mixed(farKs[i], far[i]);
             due("24: beyond 500, " + i, y.round(0, false), NONE);
             due("24: beyond 500, " + i, y.round(0, true), NONE);
         }
