@@ -38,6 +38,7 @@ final class HandBoundsTest {
         s.due("one BOOK, place 1", still(1).nudges(0, 0, 1, NONE, 0), NONE);
         s.due("two", still(2).nudges(0, 0, 1, NONE, 0), 1);
         s.due("two past each other", still(2).nudges(0, 0, 1, 1, 0), 1);
+        s.due("two past each other, the right one told first", still(2).nudges(0, 1, 0, 0, 1), 1);
         s.due("six, from end to end", still(6).nudges(0, 0, 5, NONE, 0), 5);
         s.due("six, both from end to end", still(6).nudges(0, 0, 5, 5, 0), 9);
         s.due("six, both as they stand", still(6).nudges(0, 0, 0, 5, 5), 0);
@@ -166,6 +167,31 @@ final class HandBoundsTest {
         s.due("odd, 1 is left", x.game(0, 1, 1, true), NONE);
         s.due("odd, 0 is right", x.game(0, 0, 1, true), 0);
         s.due("then even: RIGHT passes", x.game(0, 0, 2, false), 1);
+        // Three that always change, by the place of BOOK 0 alone: at odd NIGHTS LEFT holds it at 0 if it can.
+        int[][] rows = {{0, 1, 2}, {1, 0, 2}, {1, 2, 0}};
+        int[][][] even = {{{0, 0}, {0, NONE}, {0, 1}}, {{2, NONE}, {2, NONE}, {2, NONE}},
+            {{0, NONE}, {0, NONE}, {0, NONE}}};
+        int[][][] odd = {{{0, NONE}, {0, 0}, {1, NONE}}, {{1, NONE}, {1, 0}, {2, NONE}}, {{0, NONE}, {0, 0}, {1, NONE}}};
+        for (int place = 0; place < 3; place++) {
+            SelfSorting three = swapping(3);
+            for (int i = 0; i < 3; i++) {
+                three.take(rows[place][i]);
+            }
+            for (int i = 0; i < 3; i++) {
+                three.put(rows[place][i], 0, i);
+            }
+            for (int n = 1; n <= 3; n++) {
+                s.due("even, from " + place + ", n " + n, three.game(0, 0, n, false), even[n - 1][place][0]);
+                s.due("even, from " + place + ", n " + n + ": move", three.game(0, 0, n, true), even[n - 1][place][1]);
+            }
+            three.by(NONE);
+            three.night(1);
+            three.by(0);
+            for (int n = 1; n <= 3; n++) {
+                s.due("odd, from " + place + ", n " + n, three.game(0, 0, n, false), odd[n - 1][place][0]);
+                s.due("odd, from " + place + ", n " + n + ": move", three.game(0, 0, n, true), odd[n - 1][place][1]);
+            }
+        }
         SelfSorting falls = Sentences.shelf("falls 1=1;", 1, 1, 1);
         s.due("none falls", falls.game(0, 2, 5, false), 1);
         s.row("nothing is done", falls, 0, 0, 1, 2);

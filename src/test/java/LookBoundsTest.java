@@ -226,17 +226,35 @@ final class LookBoundsTest {
     private void writtenShelves() {
         s.stands(22, "0 BOOK, 1 which it pushed, 2 SHELF, 3 NIGHT.");
         SelfSorting x = Sentences.shelf(Sentences.SWAP, ones(10));
-        for (int book = 8; book < 10; book++) {
+        for (int book = 6; book < 10; book++) {
             x.take(book);
-            x.put(book, 2, book - 8);
+            x.put(book, book < 8 ? 1 : 2, book % 2);
         }
         x.night(1);
         s.due("how many", x.written(NONE, 0), 5);
-        int[] due = {8, 9, 2, 0};
-        for (int what = 0; what < 4; what++) {
-            s.due("the last, " + what, x.written(4, what), due[what]);
+        for (int i = 0; i < 5; i++) {
+            int[] due = {2 * i, 2 * i + 1, Math.max(0, i - 2), 0};
+            for (int what = 0; what < 4; what++) {
+                s.due("written(" + i + ", " + what + ")", x.written(i, what), due[what]);
+            }
         }
         s.due("how many, whatever else", x.written(NONE, 3), 5);
+    }
+
+    private void writtenEldestFirst() {
+        s.stands(22, "how many (i NONE); the i-th, from the eldest on");
+        // Each even NIGHT 0 and 1 change places, and whichever is left PUSHES.
+        for (int pushes : new int[] {60, 61, 75}) {
+            SelfSorting x = Sentences.shelf(Sentences.SWAP, 1, 1);
+            x.night(99);
+            x.night(2 * pushes - 1 - 99);
+            for (int i = 0; i < 60; i++) {
+                int nth = pushes - 60 + i;
+                s.due(pushes + ": who at " + i, x.written(i, 0), nth % 2);
+                s.due(pushes + ": whom at " + i, x.written(i, 1), 1 - nth % 2);
+                s.due(pushes + ": NIGHT at " + i, x.written(i, 3), 2 * nth);
+            }
+        }
     }
 
     // ---- Promise 23

@@ -35,6 +35,9 @@ final class OrderBoundsTest {
         return x.calm(set, NONE, 0);
     }
 
+    /** The other way round: BOOK 0, the thickest, comes first, so most orders come behind the CALM one. */
+    private static final String DOWN = "law 0 thick<othick and right=1;";
+
     // ---- Promise 25
 
     private void calmSets() {
@@ -148,7 +151,8 @@ final class OrderBoundsTest {
 
     private void basinAll() {
         s.stands(26, "how many of all orders of the set, at an even NIGHT, come to it by NIGHTS alone.");
-        s.due("all 720", told(Sentences.SORT, 6).basin(63, 0), 720);
+        s.due("all 720, to the last one", told(Sentences.SORT, 6).basin(63, 0), 720);
+        s.due("all 720, to the first one", told(DOWN, 6).basin(63, 0), 720);
         SelfSorting still = told("", 6);
         s.due("the first of 720", still.basin(63, 0), 1);
         s.due("the last of 720", still.basin(63, 719), 1);
@@ -184,6 +188,7 @@ final class OrderBoundsTest {
     private void neverSome() {
         s.stands(27, "NEVER: how many of them never come to a CALM one.");
         s.due("none of 720", told(Sentences.SORT, 6).never(63), 0);
+        s.due("none of 720, the other way", told(DOWN, 6).never(63), 0);
         s.due("none, since none changes", told("", 6).never(63), 0);
         s.due("all", told(Sentences.SWAP, 6).never(63), 720);
         // 0 and 1 change both ways: 0 1 2 begins so; in 0 2 1 they are apart for good.
@@ -241,6 +246,8 @@ final class OrderBoundsTest {
         s.due("one, at 1", x.rank(1 << 6, 1), NONE);
         for (int place = 0; place < 6; place++) {
             s.due("six", x.rank(126, place), 6 - place);
+            s.due("six, the other way", told(DOWN, 7).rank(63, place), place);
+            s.due("the other six", told(DOWN, 7).rank(126, place), place + 1);
         }
         s.due("seven", x.rank(127, 0), NONE);
         for (int set : NO_SETS) {

@@ -450,6 +450,17 @@ final class TellingBoundsTest {
         s.due("none of none", x.end(0), 0);
         s.due("all of 300", tape(300).end(300), 300);
         s.due("299 of 300", tape(300).end(299), 299);
+        // What was behind them isn't seen any more.
+        String[] told = {"law 0 1<=1", "law 0 1>=1", "wetx", "need 12", "need 1;"};
+        int[] ends = {8, 8, 3, 6, 6};
+        for (int i = 0; i < told.length; i++) {
+            SelfSorting y = new SelfSorting();
+            Calls.tape(y, told[i]);
+            y.end(ends[i]);
+            s.due("of " + told[i], y.text(), NONE);
+            s.due("FAULT", y.fault(0), 1);
+            s.due("at its end", y.fault(1), ends[i]);
+        }
     }
 
     private void endTooMany() {

@@ -1,3 +1,4 @@
+import java.util.function.Predicate;
 import java.util.function.Supplier;
 
 /** Promises 7 to 9, sentence by sentence: TEXTS, what they are made of, their FAULTS, and THE TEXT. */
@@ -92,6 +93,13 @@ final class TextBoundsTest {
         s.faulty(" ".repeat(297) + "wet", 1, 300);
         s.faulty("wet;" + " ".repeat(295) + "?", 1, 299);
         s.faulty("wet;" + " ".repeat(294) + "?", 1, 298);
+        for (String last : new String[] {"<", ">", "=", "7", "x", ";", "("}) {
+            s.faulty(" ".repeat(299) + last, 1, 299);
+            s.faulty("wet;" + " ".repeat(295) + last, 1, 299);
+        }
+        s.faulty(";".repeat(300), 1, 0);
+        s.faulty("(".repeat(300), 1, 0);
+        s.faulty("swell " + "(".repeat(294), 3, 14);
         // As many steps as 300 bytes can tell, to the last one.
         String ones = "1+".repeat(142) + "1";
         SelfSorting x = Sentences.shelf("law 0 " + ones + "=143;right", 1, 1);
@@ -156,6 +164,9 @@ final class TextBoundsTest {
         s.faulty("swell :;", 1, 6);
         s.faulty("swell /;", 1, 6);
         s.faulty("swell 4294967297;", 2, 6);
+        s.faulty("swell 10000", 2, 6);
+        s.faulty("need 12", 2, 5);
+        s.faulty("night 100", 2, 6);
         s.faulty("swell " + "9".repeat(294), 2, 6);
         s.faulty("swell 1" + "0".repeat(293), 2, 6);
         s.sound("swell " + "0".repeat(292) + "1;");
@@ -266,6 +277,12 @@ final class TextBoundsTest {
                 due("-" + (6 - n) + signs[i] + "-" + 5, so[i][n] == 1);
             }
         }
+        for (int i = 0; i < signs.length; i++) {
+            for (int n = 0; n < 3; n++) {
+                due("not " + (4 + n) + signs[i] + 5, so[i][n] == 0);
+                due((4 + n) + signs[i] + 5 + " and 1=1", so[i][n] == 1);
+            }
+        }
         due("not 1=1", false);
         due("not 1=2", true);
         due("not not 1=1", true);
@@ -307,6 +324,55 @@ final class TextBoundsTest {
         due("2*-3=-6", true);
         due("--1=1", true);
         due("1---1=0", true);
+    }
+
+    private void names() {
+        s.stands(7, "NAMES: book (its number), hue, creed, thick (as told), author, wet (1, 0) in all; right, other (the "
+            + "other's number), ohue, ocreed, othick, oauthor (of the other) in law; shelf, place, many (how many are on that "
+            + "SHELF) in falls.");
+        // BOOK 0 has the least of all, BOOK 9 the most.
+        String least = "hue=0and creed=0and thick=1and author=0and book=0";
+        String most = "hue=9and creed=9and thick=9and author=9and book=9";
+        for (boolean wet : new boolean[] {false, true}) {
+            String is = " and wet=" + (wet ? 1 : 0);
+            due(wet, "law 0 " + least + " and ohue=9and ocreed=9and othick=9and oauthor=9and other=9and right=1" + is + ";",
+                x -> x.pushes(0, 9, true) && !x.pushes(0, 9, false) && !x.pushes(0, 8, true) && !x.pushes(9, 0, true));
+            due(wet, "law 0 " + most + " and ohue=0and ocreed=0and othick=1and oauthor=0and other=0and right=0" + is + ";",
+                x -> x.pushes(9, 0, false) && !x.pushes(9, 0, true) && !x.pushes(9, 1, false) && !x.pushes(0, 9, false));
+            due(wet, "falls " + least + " and shelf=0and place=0and many=1" + is + ";", x -> {
+                x.night(1);
+                return x.about(9) == 1;
+            });
+            due(wet, "falls " + most + " and shelf=2and place=8and many=9" + is + ";", x -> {
+                x.night(1);
+                return x.about(9) == 512;
+            });
+        }
+        due(false, "swell hue+creed+thick+author+book+wet*2;", x -> {
+            x.wet(true);
+            return x.of(0, 7) == 1 + 3 && x.of(9, 7) == 18;
+        });
+        due(false, "swell 9-hue;", x -> {
+            x.wet(true);
+            return x.of(0, 7) == 10 && x.of(9, 7) == 9;
+        });
+    }
+
+    /** Whether something holds by a TEXT, of ten BOOKS: the first on SHELF 0, the others, with the last right, on 2. */
+    private void due(boolean wet, String text, Predicate<SelfSorting> holds) {
+        SelfSorting x = new SelfSorting();
+        x.wide(2, 99);
+        for (int i = 0; i < 10; i++) {
+            int n = i == 0 ? 0 : i == 9 ? 9 : 5;
+            x.book(n, n, Math.max(1, n), n, 0);
+            x.put(i, i == 0 ? 0 : 2, Math.max(0, i - 1));
+        }
+        if (wet) {
+            x.wet(true);
+        }
+        x.by(Calls.read(x, text));
+        s.due("read: " + text, x.fault(0), 0);
+        s.due((wet ? "WET: " : "dry: ") + text, holds.test(x), true);
     }
 
     /** Whether an EITHER is so: by LAW 0 of BOOK 0, with BOOK 1 right of it. */
