@@ -75,6 +75,8 @@ final class HandBoundsTest {
             s.refused(Sentences::lively, "SHELF " + shelf, NONE, y -> y.nudges(shelf, 4, 0, NONE, 0));
         }
         s.refused(Sentences::lively, "on another SHELF", NONE, y -> y.nudges(1, 4, 0, NONE, 0));
+        s.refused(Sentences::lively, "one that is OUT, on 3", NONE, y -> y.nudges(3, 2, 0, NONE, 0));
+        s.refused(Sentences::lively, "one on THE FLOOR, on 4", NONE, y -> y.nudges(4, 6, 0, NONE, 0));
         s.refused(Sentences::lively, "an empty SHELF", NONE, y -> y.nudges(2, 4, 0, NONE, 0));
         s.due("SHELF 1", x.nudges(1, 5, 0, NONE, 0), 0);
     }
@@ -141,6 +143,8 @@ final class HandBoundsTest {
         for (int shelf : new int[] {-1, 1, 2, 3, MOST, LEAST}) {
             s.refused(Sentences::lively, "SHELF " + shelf, -2, x -> x.game(shelf, 4, 1, false));
         }
+        s.refused(Sentences::lively, "one that is OUT, on 3", -2, x -> x.game(3, 2, 1, false));
+        s.refused(Sentences::lively, "one on THE FLOOR, on 4", -2, x -> x.game(4, 6, 1, false));
     }
 
     private void gameFirstMove() {

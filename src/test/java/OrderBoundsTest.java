@@ -277,6 +277,14 @@ final class OrderBoundsTest {
                 s.refused(() -> told(text, 3), text + " at " + at, NONE, x -> x.rank(7, at));
             }
         }
+        // 0 and 1 change both ways, 0 and 2 neither: all have another number of those that must be ahead.
+        SelfSorting both = told("law 0 right=1 and book+other=1 or right=1 and book=1 and other=2;", 3);
+        s.due("0 and 1", both.rank(3, 0), NONE);
+        s.due("0 and 2", both.rank(5, 0), NONE);
+        s.due("1 and 2", both.rank(6, 0), 2);
+        for (int place = 0; place < 3; place++) {
+            s.due("all three", both.rank(7, place), NONE);
+        }
         SelfSorting alike = told(Sentences.SORT, 10);
         s.due("8 and 9 are alike", alike.rank(3 << 8, 0), NONE);
         s.due("7 and 8 aren't", alike.rank(3 << 7, 0), 8);

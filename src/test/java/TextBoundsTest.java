@@ -612,6 +612,13 @@ final class TextBoundsTest {
         s.sound("law 0 ((((((((1))))))))=((((((((1))))))));law 1 ((((((((1))))))))=1;");
         s.sound("swell 1+(-(-(-(-1))));");
         s.faulty("swell 1+(-(-(-(-(1)))));", 3, 16);
+        // Nor those that are open where the text ahead had its FAULT.
+        SelfSorting x = new SelfSorting();
+        s.due("open at its end", Calls.read(x, "swell " + "(".repeat(8)), NONE);
+        s.due("all eight can be open again", Calls.read(x, "swell " + "(".repeat(8) + "1" + ")".repeat(8) + ";"), 0);
+        s.due("nine", Calls.read(x, "law 0 " + "not ".repeat(9)), NONE);
+        s.due("the ninth is one", x.fault(0), 3);
+        s.due("all eight can be open again", Calls.read(x, "law 0 " + "not ".repeat(8) + "1=1;"), 1);
     }
 
     private void fault4Second() {
