@@ -39,7 +39,10 @@ final class Sentences {
     Sentences(String name, String[] args) throws IOException {
         this.name = name;
         Path doc = Path.of(args.length > 0 ? args[0] : ".", "..", "shared", "DOC.md");
-        document = sections(Files.readString(doc, StandardCharsets.UTF_8));
+        document = Files.isReadable(doc) ? sections(Files.readString(doc, StandardCharsets.UTF_8)) : Map.of();
+        if (document.isEmpty()) {
+            System.out.println(name + ": without " + doc + " the sentences' words aren't looked up");
+        }
     }
 
     // By 'Promise 1' and so on, 'Terms' and 'What it is'; all blanks are one.
@@ -78,7 +81,7 @@ final class Sentences {
         sentences++;
         promises.add(promise);
         standing = "Promise " + promise + " \"" + words + "\": ";
-        boolean there = false;
+        boolean there = document.isEmpty();
         for (String head : new String[] {"Promise " + promise, "Terms", "What it is"}) {
             there |= document.getOrDefault(head, "").contains(words);
         }
